@@ -1069,10 +1069,11 @@ public final class UnitsWrong {
             for (int day = s.now; day < until; day++) {
                 openDay(s, day, day, 0);
                 for (int fund = 0; fund < s.funds && s.isOpen(day); fund++) {
+                    int slot = slot(fund, day);
                     fillDeals(s.deals, fund);
                     makePrice(s, fund, day, bookedCash, s.bookedPrice, s.bookedFee);
-                    bookDeals(s, fund, s.bookedPrice[slot(fund, day)]);
-                    bookedCash[fund] -= s.bookedFee[slot(fund, day)];
+                    countCoins(s.deals, fund, s.bookedPrice[slot], s.deals.booked);
+                    bookedCash[fund] -= s.bookedFee[slot];
                     passDeals(s.deals, fund);
                 }
             }
@@ -1106,7 +1107,7 @@ public final class UnitsWrong {
             for (int fund = 0; fund < s.funds && s.isOpen(day); fund++) {
                 int slot = slot(fund, day);
                 makePrice(s, fund, day, rightCash, rightPrice, rightFee);
-                rightDeals(s, fund, rightPrice[slot]);
+                countCoins(s.deals, fund, rightPrice[slot], s.deals.right);
                 rightCash[fund] -= rightFee[slot];
                 bookedCash[fund] -= s.bookedFee[slot];
                 passDeals(s.deals, fund);
@@ -1272,20 +1273,11 @@ public final class UnitsWrong {
             }
         }
 
-        private void bookDeals(State s, int fund, int at) {
+        private void countCoins(Deals deals, int fund, int at, long[] coins) {
             for (int i = firstDeal; i < behindDeals; i++) {
-                int deal = s.deals.byDay.order[i];
-                if (s.deals.fund[deal] == fund) {
-                    s.deals.booked[deal] = Deals.coinsOf(s.deals.units[deal], at);
-                }
-            }
-        }
-
-        private void rightDeals(State s, int fund, int at) {
-            for (int i = firstDeal; i < behindDeals; i++) {
-                int deal = s.deals.byDay.order[i];
-                if (s.deals.fund[deal] == fund) {
-                    s.deals.right[deal] = Deals.coinsOf(s.deals.units[deal], at);
+                int deal = deals.byDay.order[i];
+                if (deals.fund[deal] == fund) {
+                    coins[deal] = Deals.coinsOf(deals.units[deal], at);
                 }
             }
         }
