@@ -43,6 +43,8 @@ public final class PromisesTest {
         smallSums();
         gonePeople();
         taxes();
+        taxesOfMany();
+        pennies();
         feeders();
         lawsInTime();
         dues();
@@ -271,7 +273,8 @@ public final class PromisesTest {
         is(11, "in the west", x.deal(2, 0, 1, 0), 4);
         is(11, "cut of another fund", x.deal(0, 1, 10000, 0), 5);
         is(11, "a feeder", x.deal(21, 0, -10000, 9), 6);
-        int[] day = {0, 1, 0, 1, 1, 1, 0};
+        is(11, "a feeder at the cut", x.deal(21, 0, 1, 10), 7);
+        int[] day = {0, 1, 0, 1, 1, 1, 0, 1};
         for (int i = 0; i < day.length; i++) is(27, "day of " + i, x.dealt(i, 2), day[i]);
         int[][] bad = {{3, 0, 1, 9}, {-1, 0, 1, 9}, {20, 0, 1, 9}, {20, 1, 1, 9}, {21, 1, 1, 9}, {22, 0, 1, 9}, {19, 0, 1, 9}, {40, 0, 1, 9},
             {41, 0, 1, 9}, {0, 2, 1, 9}, {0, -1, 1, 9}, {0, 0, 0, 9}, {0, 0, 10001, 9}, {0, 0, -10001, 9}, {0, 0, 1, -1}, {0, 0, 1, 24},
@@ -280,12 +283,12 @@ public final class PromisesTest {
             int[] t = bad[i];
             is(11, "bad " + i, x.deal(t[0], t[1], t[2], t[3]), NONE);
         }
-        is(11, "how many", x.count(5), 7);
+        is(11, "how many", x.count(5), 8);
         x.go(5);
         x.holiday(7);
-        is(11, "on no open day", x.deal(0, 0, 1, 0), 7);
-        is(11, "its day", x.dealt(7, 2), 8);
-        for (int i = 8; i < 200; i++) is(11, "deal " + i, x.deal(0, 0, 1, 1), i);
+        is(11, "on no open day", x.deal(0, 0, 1, 0), 8);
+        is(11, "its day", x.dealt(8, 2), 8);
+        for (int i = 9; i < 200; i++) is(11, "deal " + i, x.deal(0, 0, 1, 1), i);
         is(11, "the 201st", x.deal(0, 0, 1, 1), NONE);
     }
 
@@ -324,7 +327,7 @@ public final class PromisesTest {
     private static void faults() {
         Object[][] all = {{"fee 5000", NONE}, {"fee 5001", 4}, {"fee", 3}, {"fee \n", 4}, {"fee 1 1", 6}, {"fee:", 3}, {"fee a", 4},
             {"fee5", NONE}, {"fee 0005", NONE}, {"fee 99999999999999999999", 4}, {"fee -1", 4}, {" fee  7  ", NONE}, {"\n\n \n", NONE},
-            {"fees 5", 0}, {"Fee 5", 0}, {"feE 5", 0}, {"fee 5\tx", 5}, {"5", 0}, {":", 0}, {"fee 5\r\n", 5},
+            {"fees 5", 0}, {"feez 5", 0}, {"fee/5", 3}, {"fee 5`", 5}, {"fee 5{", 5}, {"afee 5", 0}, {"fee 9", NONE}, {"fee 5;", 5}, {"Fee 5", 0}, {"feE 5", 0}, {"fee 5\tx", 5}, {"5", 0}, {":", 0}, {"fee 5\r\n", 5},
             {"swing 1000 over 10000", NONE}, {"swing 1001 over 1", 6}, {"swing 1 over 10001", 13}, {"swing 1", 7}, {"swing 1 of 2", 8},
             {"cut 24", NONE}, {"cut 25", 4}, {"error beyond 5000", NONE}, {"error beyond 5001", 13}, {"error 5", 6}, {"error", 5},
             {"least 100000 to fund", NONE}, {"least 100001 to fund", 6}, {"least 1 to house", NONE}, {"least 1 to poor", NONE},
@@ -763,6 +766,67 @@ public final class PromisesTest {
         is(27, "sold with a loss", x.dealt(5, 6), 0);
     }
 
+    private static void taxesOfMany() {
+        UnitsWrong x = new UnitsWrong();
+        x.fund(0);
+        x.fund(0);
+        x.holder(0);
+        x.holder(0);
+        law(x, "tax 90\nfund 1: tax 0");
+        x.deal(0, 0, 1, 9);
+        x.deal(1, 0, 3, 9);
+        x.deal(0, 1, 5, 9);
+        x.go(1);
+        x.trade(0, 0, 1, 0, 400);
+        x.trade(1, 0, 1, 0, 500);
+        x.deal(1, 0, -1, 9);
+        x.deal(0, 0, -1, 9);
+        x.deal(0, 0, -1, 9);
+        x.deal(0, 1, -5, 9);
+        x.go(1);
+        // At 200.00 what cost 100 each.
+        is(27, "of three", x.dealt(3, 6), 90);
+        is(27, "all of it", x.dealt(4, 6), 90);
+        is(27, "none left", x.dealt(5, 6), 0);
+        is(27, "none dealt", x.dealt(5, 3), 0);
+        is(27, "of another fund", x.dealt(6, 6), 0);
+        is(27, "by right", x.dealt(4, 7), 90);
+        x.deal(1, 0, -2, 9);
+        x.trade(0, 0, 2, 0, -199);
+        x.go(1);
+        // 2 UNITS for 201 that cost 200: 90 of 100 of one PENNY is none.
+        is(27, "cut", x.dealt(7, 4), 201);
+        is(27, "cut", x.dealt(7, 6), 0);
+    }
+
+    /** A single PENNY: the least CLAIM, BALANCE and PAYMENT. */
+    private static void pennies() {
+        UnitsWrong x = new UnitsWrong();
+        x.fund(0);
+        x.holder(0);
+        x.holder(0);
+        x.deal(0, 0, 100, 9);
+        x.go(1);
+        x.trade(0, 0, 1, 0, 100);
+        x.deal(1, 0, 1, 9);
+        x.go(1);
+        x.trade(0, 0, 1, 0, -100);
+        is(24, "a penny", x.claim(1, 0, 2, 2), 1);
+        is(24, "due", x.claim(1, 0, 2, 3), 0);
+        pays(x, 0, 20, 1, 1);
+        law(x, "least 1 to house");
+        is(24, "not below", x.claim(1, 0, 2, 3), 0);
+        law(x, "least 2 to house");
+        is(24, "small", x.claim(1, 0, 2, 3), 1);
+        pays(x, 0, 20, 40, 1);
+        law(x, "gone 0 days to poor");
+        x.gone(1);
+        is(24, "held", x.claim(1, 0, 2, 3), 2);
+        x.found(0);
+        is(24, "no days to be over", x.claim(1, 0, 2, 3), 3);
+        pays(x, 0, 20, 41, 1);
+    }
+
     private static void feeders() {
         UnitsWrong x = new UnitsWrong();
         x.fund(0);
@@ -912,6 +976,10 @@ public final class PromisesTest {
         is(34, "two days", x.explain(), 8);
         is(33, "forgotten", x.forget(), 9);
         is(33, "nothing left", x.forget(), 0);
+        x.audit(0, 1, 17000);
+        is(34, "not explained", x.explain(), NONE);
+        is(33, "one", x.forget(), 1);
+        is(34, "nothing to explain", x.explain(), 0);
         is(31, "anew", x.audit(0, 1, 18000), 1);
         is(34, "none needed", x.explain(), 0);
         is(35, "none needed", x.rivals(), 0);

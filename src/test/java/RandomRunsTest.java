@@ -79,6 +79,15 @@ public final class RandomRunsTest {
         return below(Math.max(1, Math.min(naive.now, 259) + 1));
     }
 
+    /** The next DEAL from that number on by which something was sold. */
+    private int someSale(int deal) {
+        for (int i = 0; i < naive.deals.size(); i++) {
+            int next = Math.floorMod(deal + i, naive.deals.size());
+            if (naive.deals.get(next).units < 0) return next;
+        }
+        return deal;
+    }
+
     private int someK() {
         return below(3) == 0 ? someDay() : Math.min(259, naive.now);
     }
@@ -113,6 +122,7 @@ public final class RandomRunsTest {
             int zone = about(-11, 12);
             same("holder " + zone, program.holder(zone), naive.holder(zone));
         }
+        if (below(2) == 0) text();
         while (done.size() < CALLS - 30 && wrong == null) {
             int kind = below(100);
             if (kind < 50) act(kind);
@@ -231,7 +241,7 @@ public final class RandomRunsTest {
         int n = had + bytes.length;
         if (below(5) != 0) same("end " + n, program.end(n), naive.end(n));
         same("fault", program.fault(), naive.fault());
-        if (naive.now > below(20) || below(6) == 0) same("take", program.take(), naive.take());
+        if (naive.now > below(20) || naive.laws.isEmpty() || below(6) == 0) same("take", program.take(), naive.take());
         int f = someFund();
         int d = someDay();
         for (int what = -1; what < 13; what += from(1, 4)) same("rule " + f + " " + d + " " + what, program.rule(f, d, what), naive.rule(f, d, what));
@@ -241,7 +251,7 @@ public final class RandomRunsTest {
         String blank = below(10) == 0 ? "  " : " ";
         String scope = below(4) == 0 ? "fund " + about(0, 3) + ":" + blank : "";
         String p = new String[] {"fund", "house", "poor", "me"}[below(20) == 0 ? 3 : below(3)];
-        String line = switch (below(11)) {
+        String line = switch (below(12)) {
             case 0 -> "fee " + number(0, 5000);
             case 1 -> "swing " + number(0, 1000) + " over " + number(0, 10000);
             case 2 -> "cut " + number(0, 24);
@@ -250,7 +260,7 @@ public final class RandomRunsTest {
             case 5 -> "gains stay";
             case 6 -> "gains back beyond " + (below(2) == 0 ? number(0, 100000) : "" + from(0, 300));
             case 7 -> "gone " + (below(2) == 0 ? number(0, 300) : "" + from(0, 5)) + " days to " + p;
-            case 8 -> "tax " + number(0, 90);
+            case 8, 10 -> "tax " + number(0, 90);
             case 9 -> "report " + number(0, 60) + " days";
             default -> below(3) == 0 ? "fees 1" : "";
         };
@@ -287,7 +297,8 @@ public final class RandomRunsTest {
         else if (kind < 32) same("cash " + f + " " + what / 2, program.cash(f, what / 2), naive.cash(f, what / 2));
         else if (kind < 37) {
             int deal = below(20) == 0 ? about(0, 199) : below(Math.max(1, naive.deals.size()));
-            int part = about(0, 7);
+            if (below(2) == 0) deal = someSale(deal);
+            int part = below(3) == 0 ? from(6, 7) : about(0, 7);
             same("dealt " + deal + " " + part, program.dealt(deal, part), naive.dealt(deal, part));
         } else if (kind < 38) same("due " + f, program.due(f), naive.due(f));
         else if (kind < 40) {
