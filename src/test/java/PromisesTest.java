@@ -54,6 +54,8 @@ public final class PromisesTest {
         manyParties();
         nearestEnds();
         lastDay();
+        foundAtTheEnd();
+        firstDealIsWrong();
         lateHoliday();
         counts();
         System.out.println(asked + " answers, " + wrong + " of them not as due");
@@ -187,6 +189,14 @@ public final class PromisesTest {
         for (int i = good.length; i < 400; i++) is(7, "telling " + i, x.tell(0, 1, i % 260, 1 + i), i + 1);
         is(7, "the 401st", x.tell(0, 1, 0, 1), NONE);
         is(7, "unchanged", x.known(0, 1, 0, 0), 261);
+        x.fund(0);
+        x.holder(0);
+        x.trade(0, 1, 0, 1, 0);
+        x.deal(0, 0, 100, 9);
+        for (int i = 0; i < 7; i++) x.go(40);
+        // The last TELLING for DAY 139 is the 400th; for 140 and on the ones of the first round count.
+        is(18, "by the 400th", x.booked(0, 137), 10398);
+        is(18, "by the 141st", x.booked(0, 140), 10141);
     }
 
     private static void knowing() {
@@ -290,6 +300,11 @@ public final class PromisesTest {
         is(11, "its day", x.dealt(8, 2), 8);
         for (int i = 9; i < 200; i++) is(11, "deal " + i, x.deal(0, 0, 1, 1), i);
         is(11, "the 201st", x.deal(0, 0, 1, 1), NONE);
+        x.go(4);
+        is(27, "the 200th is dealt", x.dealt(199, 3), 1);
+        // 2 on the DAYS 0 and 1, and 192 on the DAY 8.
+        is(23, "all of them", x.units(0, 0), 194);
+        is(41, "units", x.count(20), 198);
     }
 
     private static void texts() {
@@ -327,7 +342,7 @@ public final class PromisesTest {
     private static void faults() {
         Object[][] all = {{"fee 5000", NONE}, {"fee 5001", 4}, {"fee", 3}, {"fee \n", 4}, {"fee 1 1", 6}, {"fee:", 3}, {"fee a", 4},
             {"fee5", NONE}, {"fee 0005", NONE}, {"fee 99999999999999999999", 4}, {"fee -1", 4}, {" fee  7  ", NONE}, {"\n\n \n", NONE},
-            {"fees 5", 0}, {"feez 5", 0}, {"fee/5", 3}, {"fee 5`", 5}, {"fee 5{", 5}, {"afee 5", 0}, {"fee 9", NONE}, {"fee 5;", 5}, {"Fee 5", 0}, {"feE 5", 0}, {"fee 5\tx", 5}, {"5", 0}, {":", 0}, {"fee 5\r\n", 5},
+            {"fees 5", 0}, {"feez 5", 0}, {"fee/5", 3}, {"fee 5`", 5}, {"fee 5{", 5}, {"afee 5", 0}, {"gut 5", 0}, {"cat 5", 0}, {"cub 5", 0}, {"fee 9", NONE}, {"fee 5;", 5}, {"Fee 5", 0}, {"feE 5", 0}, {"fee 5\tx", 5}, {"5", 0}, {":", 0}, {"fee 5\r\n", 5},
             {"swing 1000 over 10000", NONE}, {"swing 1001 over 1", 6}, {"swing 1 over 10001", 13}, {"swing 1", 7}, {"swing 1 of 2", 8},
             {"cut 24", NONE}, {"cut 25", 4}, {"error beyond 5000", NONE}, {"error beyond 5001", 13}, {"error 5", 6}, {"error", 5},
             {"least 100000 to fund", NONE}, {"least 100001 to fund", 6}, {"least 1 to house", NONE}, {"least 1 to poor", NONE},
@@ -1161,6 +1176,30 @@ public final class PromisesTest {
         is(18, "day 260", x.booked(0, 260), NONE);
         is(27, "dealt at the end", x.dealt(1, 3), 1);
         is(34, "explained", x.explain(), 0);
+    }
+
+    private static void foundAtTheEnd() {
+        UnitsWrong x = new UnitsWrong();
+        x.fund(0);
+        for (int i = 0; i < 7; i++) x.go(40);
+        is(29, "at the end", x.found(0), false);
+        is(30, "at the end", x.due(0), NONE);
+    }
+
+    private static void firstDealIsWrong() {
+        UnitsWrong x = new UnitsWrong();
+        x.fund(0);
+        x.holder(0);
+        x.holder(0);
+        law(x, "cut 10");
+        x.deal(1, 0, 10, 23);
+        x.deal(0, 0, 100, 9);
+        x.go(1);
+        x.trade(0, 0, 1, 0, 1000);
+        x.go(1);
+        x.trade(0, 0, 1, 0, -1000);
+        is(24, "by the first deal", x.claim(1, 0, 2, 2), 100);
+        is(24, "by the second", x.claim(0, 0, 2, 2), 0);
     }
 
     private static void lateHoliday() {
