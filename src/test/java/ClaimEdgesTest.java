@@ -9,6 +9,7 @@ public final class ClaimEdgesTest {
         dealsOnDaysWhoseErrorCounts();
         daysUpToK();
         gainsBackBeyond();
+        gainOfAPenny();
         smallBelowLeast();
         smallToP();
         goneDaysAreOver();
@@ -19,6 +20,7 @@ public final class ClaimEdgesTest {
         goneAtTheEnd();
         houseBehindTheLatestDay();
         houseOfFeesAlone();
+        houseOfEachFund();
         taxIsCut();
         taxOfAShare();
         taxByRightCoins();
@@ -142,6 +144,12 @@ public final class ClaimEdgesTest {
         }
     }
 
+    private static void gainOfAPenny() {
+        // Bought for 100, and it should have been 101.
+        Run x = priced("4, a PENNY back", 10000, 10001, 1).claims(0, 0, 2, 0, 1, 0, 0).law("gains back beyond 0").claims(0, 0, 2, 0, 1, -1, 0).is("house(0, 2)", 0).pays(0, 0, 20, 1);
+        x.law("gains back beyond 1").claims(0, 0, 2, 0, 1, 0, 0).is("house(0, 2)", 1).pays(0, 40, 20, 1);
+    }
+
     // "A CLAIM above 0 and below least is SMALL"
     private static void smallBelowLeast() {
         for (int least = 98; least <= 102; least++) lost100("4, least").law("least " + least + " to fund").claims(1, 0, 2, 100, 0, 100, least > 100 ? 1 : 0);
@@ -241,6 +249,20 @@ public final class ClaimEdgesTest {
             Run x = Run.ofUnits("4, FEES", 100).law("fee 1000").is("go(1)", 2).after(Run.call("trade", 0, 0, 1, 0, sign * 1000)).is("fee(0, 1, 0)", 10).is("fee(0, 1, 1)", 10 + sign);
             x.is("house(0, 2)", -sign).is("cash(0, 0)", 9990 + sign * 1000).is("cash(0, 1)", 9990 + sign * 999).balances(0, 20, -sign, 40, sign, 0, 0);
             x.pays(0, sign > 0 ? 20 : 40, sign > 0 ? 40 : 20, 1);
+        }
+    }
+
+    private static void houseOfEachFund() {
+        for (int fund = 0; fund < 4; fund++) {
+            int self = 20 + fund;
+            Run x = new Run("4, FUND " + fund).after("fund(0)", "fund(0)", "fund(0)", "fund(0)", "holder(0)", "holder(0)", Run.call("deal", 0, fund, 100, 9)).is("go(1)", 1);
+            x.after(Run.call("trade", fund, 0, 1, 0, 1000), Run.call("deal", 1, fund, 10, 9), Run.call("deal", 0, fund, -5, 9)).is("go(1)", 2).after(Run.call("trade", fund, 0, 1, 0, -1000));
+            for (int other = 0; other < 4; other++) x.is(Run.call("errors", other), other == fund ? 1 : 0).is(Run.call("house", other, 2), other == fund ? 50 : 0).balances(fund, 20 + other, other == fund ? -50 : 0);
+            // HOLDER 1 paid 100 too much, HOLDER 0 keeps 50.
+            x.claims(1, fund, 2, 100, 0, 100, 0).claims(0, fund, 2, 0, 50, 0, 0).balances(fund, 0, 0, 1, 100, 40, -50, 41, 0).pays(fund, self, 1, 100, 40, self, 50);
+            x.fork().law("least 101 to fund").claims(1, fund, 2, 100, 0, 100, 1).is(Run.call("house", fund, 2), -50).balances(fund, 1, 0, self, -50, 40, 50).pays(fund, self, 40, 50);
+            x.law("gone 0 days to fund").yes("gone(1)").claims(1, fund, 2, 100, 0, 100, 2).is(Run.call("house", fund, 2), 50).balances(fund, 1, 0, self, 50, 40, -50).pays(fund, 40, self, 50);
+            x.yes(Run.call("found", fund)).claims(1, fund, 2, 100, 0, 100, 3).is(Run.call("house", fund, 2), -50).balances(fund, 1, 0, self, -50, 40, 50).pays(fund, self, 40, 50);
         }
     }
 

@@ -2,12 +2,14 @@
 public final class DayEdgesTest {
     public static void main(String[] args) {
         splitsAreCutTowardZero();
+        splitsOfOnePaperAlone();
         splitsAreBounded();
         tradesAreBounded();
         tradesGoByNumbers();
         dividendsAreCutTowardZero();
         dividendsStandBetweenSplitsAndTrades();
         daysThatAreNotOpen();
+        piecesOfEachFund();
         papersAreCutOneByOne();
         heldFundsAreCutOneByOne();
         feesAreCut();
@@ -52,6 +54,13 @@ public final class DayEdgesTest {
             pieces(pieces(x, 2, one[2]), 3, 77);
             // On its DAY alone.
             pieces(x.is("go(1)", 2), 2, one[2]);
+        }
+    }
+
+    private static void splitsOfOnePaperAlone() {
+        for (int paper = 1; paper < 8; paper++) {
+            Run x = Run.ofUnits("3, SPLIT of one PAPER", 100).after("trade(0, 0, 0, 10, 0)", Run.call("trade", 0, paper, 0, 9000, 0), Run.call("tell", 0, paper, 0, 1), "tell(3, 0, 1, 2000)");
+            x.is("go(1)", 2).is("booked(0, 1)", 19000).is("right(0, 1, 2)", 19000).is("go(1)", 3).is("booked(0, 2)", 19000);
         }
     }
 
@@ -131,6 +140,18 @@ public final class DayEdgesTest {
         x.after("tell(2, 0, 6, 5)", "tell(3, 0, 6, 2000)").is("go(1)", 7).is("cash(0, 0)", 9960 + 100).refuses("booked(0, 5)", "booked(0, 6)", "fee(0, 5, 0)", "fee(0, 6, 1)");
         x.is("go(1)", 8).is("fee(0, 7, 0)", 10).is("booked(0, 7)", 10050).after("tell(2, 0, 8, 1)", "trade(0, 0, 8, 1, 0)").is("go(1)", 9);
         x.is("cash(0, 0)", 10050 + 20).refuses("booked(0, 8)", "fee(0, 8, 0)").is("cash(0, 1)", 10050 + 20).is("errors(0)", 0);
+    }
+
+    // "its pieces of that PAPER": those of each FUND
+    private static void piecesOfEachFund() {
+        Run x = new Run("3, pieces").after("fund(0)", "fund(0)", "fund(0)", "fund(0)", "holder(0)", "tell(0, 7, 0, 7)");
+        for (int fund = 0; fund < 4; fund++) x.after(Run.call("deal", 0, fund, 100, 9), Run.call("trade", fund, 7, 0, 10 * (fund + 1), 0));
+        x.is("go(2)", 2).after("tell(3, 7, 2, 2000)", "tell(2, 7, 2, 1)").is("go(1)", 3);
+        for (int fund = 0; fund < 4; fund++) {
+            int tens = fund + 1;
+            x.is(Run.call("booked", fund, 1), 10000 + 70 * tens).is(Run.call("booked", fund, 2), 10000 + 160 * tens).is(Run.call("cash", fund, 0), 10000 + 20 * tens);
+            x.is(Run.call("right", fund, 1, 3), 10000 + 70 * tens).is(Run.call("right", fund, 2, 3), 10000 + 160 * tens).is(Run.call("errors", fund), 0);
+        }
     }
 
     // "(4) ASSETS: CASH, pieces times PRICE times RATE by 1000 (cut toward 0) of each PAPER"

@@ -10,6 +10,7 @@ public final class RefusalsTest {
     public static void main(String[] args) {
         papers();
         funds();
+        laterFund();
         fifthFund();
         holders();
         seventeenthHolder();
@@ -93,6 +94,12 @@ public final class RefusalsTest {
         x.refuses("fund(-1)", "fund(100000001)", Run.call("fund", LEAST_INT), Run.call("fund", MOST_INT));
         laterHouse("3, fund").refuses("fund(0)", "fund(5)");
         new Run("3, fund").is("go(0)", 0).is("fund(7)", 0).is("go(1)", 1).refuses("fund(7)");
+    }
+
+    /** One FUND more, after CASH was asked for. */
+    private static void laterFund() {
+        Run x = new Run("3, fund").is("fund(5)", 0).is("cash(0, 0)", 5).is("house(0, 0)", 0).is("fund(7)", 1).is("cash(1, 0)", 7).is("cash(1, 1)", 7);
+        x.is("payments(1)", 0).is("fund(100000000)", 2).is("cash(2, 1)", 100000000).is("cash(0, 1)", 5).is("house(2, 0)", 0);
     }
 
     private static void fifthFund() {

@@ -20,6 +20,7 @@ public final class SettleEdgesTest {
         asManyHeapsAsCanBe();
         firstOfLikeWays();
         paymentsByNumbers();
+        paymentsOfTwoFunds();
         dueBehindFound();
         dueByTheLawOfThatDay();
         dueBehindTheLastDay();
@@ -94,6 +95,8 @@ public final class SettleEdgesTest {
         // Of another FUND: one that holds UNITS of this one is explained by the same SUSPECT.
         Run z = new Run("5, AUDITS").after("fund(0)", "fund(0)", "holder(0)", "trade(0, 0, 0, 1, 0)", "deal(0, 0, 50, 9)", "deal(21, 0, 50, 9)", "deal(0, 1, 50, 9)").is("go(2)", 2);
         z.is("suspect(2, 0, 1, 100)", 0).is("audit(1, 1, 10100)", 1).is("explain()", 1).is("audit(0, 1, 10100)", 2).is("explain()", 1).is("audit(1, 0, 10000)", 3).is("explain()", 1);
+        z.is("forget()", 4).after("trade(1, 0, 1, 0, 50)").is("suspect(2, 0, 1, 100)", 0).is("audit(1, 1, 10100)", 1).is("explain()", 0).is("audit(0, 1, 10100)", 2).refuses("explain()");
+        z.is("forget()", 3).is("suspect(2, 0, 1, 100)", 0).is("audit(1, 1, 10200)", 1).is("explain()", 1).is("audit(0, 1, 10100)", 2).is("explain()", 1).is("audit(0, 1, 10200)", 3).refuses("explain()");
     }
 
     // "(.. as if made now, in their order)"
@@ -132,6 +135,9 @@ public final class SettleEdgesTest {
     private static void suspectsChangeNothing() {
         Run x = suspecting("5, SUSPECTS", 1, 2, 4).is("audit(0, 1, 10005)", 1).is("explain()", 5).is("right(0, 1, 2)", 10000).is("errors(0)", 0).is("cash(0, 1)", 10000).is("known(2, 0, 1, 2)", 0);
         x.is("explain()", 5).is("count(3)", 0).is("dealt(0, 5)", 10000).is("house(0, 2)", 0).is("go(1)", 3).is("booked(0, 2)", 10000).is("explain()", 5).is("balance(0, 20)", 0);
+        // Nor those for a DAY that ends after they were told.
+        Run y = sevenPapers("5, SUSPECTS").is("suspect(2, 0, 2, 5)", 0).is("suspect(0, 1, 2, 7)", 1).is("go(1)", 3).is("booked(0, 2)", 10000).is("right(0, 2, 3)", 10000).is("cash(0, 0)", 10000);
+        y.is("audit(0, 2, 10012)", 1).is("explain()", 3).is("go(1)", 4).is("booked(0, 3)", 10000).is("explain()", 3);
     }
 
     // "AUDITS and SUSPECTS are forgotten: how many both were."
@@ -168,6 +174,8 @@ public final class SettleEdgesTest {
                 if (n >= 0 && n <= 10000) x.is(Run.call("alarm", 0, n), n <= one[1] ? 1 : Run.NONE);
             }
         }
+        // By more than 10000 parts it differs, but so much can't be asked for.
+        Run.ofUnits("36, alarm", 100).after("trade(0, 0, 1, 0, 90000)").is("go(1)", 2).is("alarm(0, 9999)", 1).is("alarm(0, 10000)", 1).refuses("alarm(0, 10001)", "alarm(0, 2147483647)", "alarm(0, -1)");
         // Of the price ahead, not of the later one: 10000 to 12000 are 2000, and 12000 back are 1666 of it.
         Run x = Run.ofUnits("36, alarm", 100).is("go(1)", 2).after("trade(0, 0, 2, 0, 2000)").is("go(1)", 3).is("alarm(0, 1999)", 2).is("alarm(0, 2000)", Run.NONE);
         x.after("trade(0, 0, 3, 0, -2000)").is("go(1)", 4).is("alarm(0, 1999)", 2).is("alarm(0, 2000)", Run.NONE).is("alarm(0, 1666)", 2);
@@ -264,6 +272,17 @@ public final class SettleEdgesTest {
         owing("40, in a heap", -4, 1).pays(0, 0, 1, 80, 1, 20, 60);
         Run x = owing("40, in a heap", 5, 1).law("least 21 to poor").balances(0, 0, 100, 1, 0, 20, -120, 40, 0, 41, 20).pays(0, 20, 0, 100, 20, 41, 20);
         x.law("least 21 to fund").balances(0, 0, 100, 1, 0, 20, -120, 40, 20, 41, 0).pays(0, 20, 0, 100, 20, 40, 20);
+    }
+
+    private static void paymentsOfTwoFunds() {
+        Run x = new Run("40, two FUNDS").after("fund(0)", "fund(0)");
+        for (int holder = 0; holder < 4; holder++) x.after("holder(0)", Run.call("deal", holder, 0, 50, 9), Run.call("deal", holder, 1, 50, 9));
+        x.is("go(1)", 1).after("trade(0, 0, 1, 0, 4000)", "trade(1, 0, 1, 0, 4000)");
+        int[][] deals = {{-5, 5, 3, -3}, {-5, -3, 5, 3}};
+        for (int holder = 0; holder < 4; holder++) x.after(Run.call("deal", holder, 0, deals[0][holder], 9), Run.call("deal", holder, 1, deals[1][holder], 9));
+        x.is("go(1)", 2).after("trade(0, 0, 1, 0, -4000)", "trade(1, 0, 1, 0, -4000)").law("gains back beyond 0");
+        for (int round = 0; round < 3; round++) x.pays(0, 0, 1, 100, 3, 2, 60).pays(1, 0, 2, 100, 1, 3, 60);
+        x.law("gains back beyond 60").pays(0, 0, 1, 100, 40, 2, 60).pays(1, 0, 2, 100, 40, 3, 60);
     }
 
     // "DUE is a DAY: report OPEN DAYS .. behind the FOUND one"
