@@ -321,8 +321,8 @@ public final class ClaimEdgesTest {
         Run x = Run.ofUnits("4, TAX", 100).law("tax 90").after("trade(0, 0, 1, 0, 20000)", "deal(1, 0, 100, 9)").is("go(1)", 2).is("booked(0, 1)", 30000);
         x.after("deal(1, 0, -100, 9)", "deal(1, 0, 50, 9)", "deal(1, 0, -50, 9)").is("go(1)", 3).is("booked(0, 2)", 30000).all(0, "dealt(2, 6)", "dealt(4, 6)", "dealt(3, 6)");
         // What others have, and what they have of other FUNDS, is no cost of theirs.
-        Run y = new Run("4, TAX").after("fund(0)", "fund(0)", "holder(0)", "holder(0)").law("tax 90").after("deal(0, 0, 10, 9)", "deal(1, 0, 30, 9)", "deal(0, 1, 20, 9)").is("go(1)", 1);
-        y.after("trade(0, 0, 1, 0, 4000)", "deal(0, 0, -10, 9)").is("go(1)", 2).is("booked(0, 1)", 20000).is("dealt(3, 6)", 900);
+        Run y = new Run("4, TAX").after("fund(0)", "fund(0)", "holder(0)", "holder(0)").law("tax 90\nfund 1: swing 1000 over 0").after("deal(0, 0, 10, 9)", "deal(1, 0, 30, 9)", "deal(0, 1, 20, 9)").is("go(1)", 1);
+        y.is("dealt(2, 4)", 2200).after("trade(0, 0, 1, 0, 4000)", "deal(0, 0, -10, 9)").is("go(1)", 2).is("booked(0, 1)", 20000).is("dealt(3, 6)", 900);
     }
 
     private static void taxOfWhatIsNoSale() {

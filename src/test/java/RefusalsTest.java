@@ -193,6 +193,7 @@ public final class RefusalsTest {
         x.yes("stale(0, 0, 2, 4)").yes("stale(0, 0, 259, 259)").yes("stale(1, 1, 1, 0)").no("stale(0, 0, 0, 0)").no("stale(0, 0, 1, 4)");
         // None was told; none was known then; no DIVIDEND or SPLIT is.
         x.no("stale(0, 2, 5, 5)").no("stale(1, 2, 5, 5)").yes("stale(0, 0, 1, 2)").no("stale(2, 0, 2, 4)").no("stale(3, 0, 2, 4)");
+        x.fork().after("tell(0, 7, 1, 5)", "tell(1, 2, 1, 5)").yes("stale(0, 7, 2, 4)").no("stale(0, 7, 1, 4)").yes("stale(1, 2, 2, 4)").no("stale(1, 2, 1, 4)").no("stale(0, 6, 2, 4)");
         x.refuses("stale(-1, 0, 5, 5)", "stale(4, 0, 5, 5)", "stale(0, -1, 5, 5)", "stale(0, 8, 5, 5)", "stale(1, 0, 5, 5)", "stale(1, 3, 5, 5)",
             "stale(0, 0, -1, 5)", "stale(0, 0, 260, 5)", "stale(0, 0, 5, -1)", "stale(0, 0, 5, 260)");
         for (int far : FAR) x.refuses(Run.call("stale", far, 0, 5, 5), Run.call("stale", 0, far, 5, 5), Run.call("stale", 0, 0, far, 5), Run.call("stale", 0, 0, 5, far));

@@ -310,6 +310,9 @@ public final class TextEdgesTest {
             // In place of its number.
             fault("fee " + (char) sign, sign >= '0' && sign <= '9' ? -1 : sign == ' ' ? 5 : 4);
             if (!isToken && !isNone) fault("fe" + (char) sign + "e 5", 0);
+            // Behind a word: a letter makes another word, a digit is a number, so that the next one can't stand.
+            boolean isLetter = sign >= 'a' && sign <= 'z';
+            fault("fee" + (char) sign + " 5", isLetter ? 0 : sign >= '0' && sign <= '9' ? 5 : sign == ' ' ? -1 : 3);
         }
     }
 
