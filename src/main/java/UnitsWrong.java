@@ -1081,11 +1081,6 @@ public final class UnitsWrong {
             s.changes++;
         }
 
-        /** Leaves what was made by the walk as good for nothing: it was one with SUSPECTS. */
-        void spoil() {
-            walkedTo = NONE;
-        }
-
         void start(State s) {
             System.arraycopy(s.startCash, 0, bookedCash, 0, FUNDS);
             System.arraycopy(s.startCash, 0, rightCash, 0, FUNDS);
@@ -1099,7 +1094,8 @@ public final class UnitsWrong {
             nextTelling = 0;
             nextTrade = 0;
             behindDeals = 0;
-            spoil();
+            // What is walked from here on may be with SUSPECTS, or be BOOKED: walkTo alone says what it made.
+            walkedTo = NONE;
         }
 
         void passDay(State s, int day, int k, int heap) {
@@ -1556,7 +1552,6 @@ public final class UnitsWrong {
                     }
                 }
             }
-            c.spoil();
             searched = true;
             searchedChanges = s.changes;
         }

@@ -51,6 +51,7 @@ public final class RefusalsTest {
         counts();
         nothingYet();
         behindTheLastDay();
+        questionsChangeNothing();
         Run.close();
     }
 
@@ -220,8 +221,8 @@ public final class RefusalsTest {
     private static void tradesBeyond120() {
         Run x = house("10, trade");
         for (int i = 2; i < 119; i++) x.is("trade(0, 2, 0, 1, -1)", i);
-        x.refuses("trade(0, 2, 1, 1, 1)").is("trade(0, 3, 0, 5, 5)", 119).is("count(4)", 120);
-        x.refuses("trade(0, 3, 0, 5, 5)", "trade(2, 0, 0, 0, 0)").is("go(1)", 1).refuses("trade(0, 3, 0, 5, 5)");
+        x.refuses("trade(0, 2, 1, 1, 1)").is("trade(0, 0, 0, 5, 5)", 119).is("count(4)", 120);
+        x.refuses("trade(0, 0, 0, 5, 5)", "trade(0, 0, 0, 6, 5)", "trade(0, 0, 0, 5, 6)", "trade(2, 0, 0, 0, 0)").is("go(1)", 1).refuses("trade(0, 0, 0, 5, 5)", "trade(0, 1, 0, 7, 7)");
     }
 
     private static void deals() {
@@ -267,9 +268,9 @@ public final class RefusalsTest {
         x.is("feed(538976288, 538976288, 538976288, 538976288, 538976288)", 585);
         x.refuses("feed(538976288, 538976288, 538976288, 538976288, 538976288)", "feed(0, 0, 0, 0, 0)").is("count(7)", 585);
         x.fork().yes("end(581)").refuses("feed(0, 0, 0, 0, 0)");
-        x.yes("end(580)").is("feed(538976288, 538976288, 538976288, 538976288, 538976312)", 600);
-        x.refuses("feed(538976288, 538976288, 538976288, 538976288, 538976288)", "feed(-1, -1, -1, -1, -1)").is("count(7)", 600).is("fault()", 599);
-        x.yes("end(599)").is("fault()", -1);
+        x.yes("end(580)").is("feed(538976288, 538976288, 538976288, 538976288, 538976288)", 600).is("fault()", -1);
+        x.refuses("feed(538976288, 538976288, 538976288, 538976288, 538976288)", "feed(-1, -1, -1, -1, -1)", "feed(0, 0, 0, 0, 0)").is("count(7)", 600).is("fault()", -1);
+        x.yes("end(580)").is("feed(538976288, 538976288, 538976288, 538976288, 538976312)", 600).is("fault()", 599).yes("end(599)").is("fault()", -1);
     }
 
     private static void ending() {
@@ -399,6 +400,9 @@ public final class RefusalsTest {
         Run y = lastDay("29, found");
         y.fork().yes("found(1)").refuses("found(1)");
         y.is("go(1)", 260).refuses("found(0)", "found(1)", "found(2)");
+        // Without a LAW it would be due at once.
+        new Run("29, found").after("fund(0)").goTo(259).fork().yes("found(0)").is("due(0)", 259);
+        new Run("29, found").after("fund(0)").goTo(260).refuses("found(0)", "due(0)");
     }
 
     private static void dues() {
@@ -423,7 +427,8 @@ public final class RefusalsTest {
     private static void ninthAudit() {
         Run x = laterHouse("31, audit");
         for (int i = 2; i < 8; i++) x.is("audit(0, 0, 10000)", i);
-        x.refuses("audit(0, 0, -1)").is("audit(0, 1, 20000)", 8).refuses("audit(0, 1, 20000)", "audit(0, 0, 5)").is("count(8)", 8);
+        x.refuses("audit(0, 0, -1)").is("explain()", 2).is("audit(0, 1, 14992)", 8).is("explain()", 2);
+        x.refuses("audit(0, 1, 14992)", "audit(0, 0, 5)", "audit(1, 1, 5)").is("count(8)", 8).is("explain()", 2);
         x.is("forget()", 10).is("count(8)", 0).is("count(9)", 0).is("audit(0, 1, 20000)", 1);
     }
 
@@ -444,7 +449,8 @@ public final class RefusalsTest {
     private static void eighthSuspect() {
         Run x = laterHouse("32, suspect");
         for (int i = 2; i < 6; i++) x.is("suspect(0, 0, 0, 7)", i);
-        x.refuses("suspect(0, 0, 0, 0)").is("suspect(2, 0, 1, 5)", 6).refuses("suspect(2, 0, 1, 5)", "suspect(0, 0, 0, 7)").is("count(9)", 7);
+        x.refuses("suspect(0, 0, 0, 0)").is("suspect(2, 0, 1, 4)", 6).is("explain()", 2).is("rivals()", 1);
+        x.refuses("suspect(2, 0, 1, 4)", "suspect(2, 0, 1, 5)", "suspect(0, 0, 0, 7)").is("count(9)", 7).is("rivals()", 1);
         x.is("forget()", 8).is("suspect(2, 0, 1, 5)", 0).is("forget()", 1).is("forget()", 0);
     }
 
@@ -516,5 +522,11 @@ public final class RefusalsTest {
         x.fork().is("holder(0)", 3).yes("gone(2)").text("fee 3").refuses("take()").is("audit(0, 259, 5)", 2).is("suspect(0, 0, 0, 5)", 2).is("forget()", 5);
         x.is("known(2, 0, 259, 259)", 50).is("known(2, 0, 259, 258)", 0).after("right(0, 259, 259)").refuses("right(0, 259, 260)", "known(0, 0, 0, 260)", "known(0, 0, 260, 0)");
         x.is("go(0)", 260).is("go(5)", 260).is("count(0)", 260).is("due(0)", 8);
+    }
+
+    private static void questionsChangeNothing() {
+        laterHouse("questions").answersInAnyOrder().besides(house("questions").goTo(3).law("tax 5"));
+        house("questions").answersInAnyOrder();
+        lastDay("questions").is("go(1)", 260).answersInAnyOrder();
     }
 }

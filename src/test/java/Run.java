@@ -113,6 +113,36 @@ final class Run {
         return this;
     }
 
+    /** Questions change nothing: each is answered alike as the first one of all, forward and backward. */
+    Run answersInAnyOrder() {
+        Map<String, Long> forward = answers(done, List.of());
+        UnitsWrong x = null;
+        int left = 0;
+        List<String> questions = questions(replay(done));
+        for (int i = questions.size() - 1; i >= 0; i--) {
+            if (left-- == 0) {
+                x = replay(done);
+                left = MOST_CALLS - done.size() - 1;
+            }
+            check(questions.get(i) + ", asked backward,", answer(x, questions.get(i)), forward.get(questions.get(i)));
+            check(questions.get(i) + ", asked alone,", answer(replay(done), questions.get(i)), forward.get(questions.get(i)));
+        }
+        return this;
+    }
+
+    /** Another run, call by call beside this one: neither object knows of the other. */
+    Run besides(Run other) {
+        UnitsWrong x = new UnitsWrong();
+        UnitsWrong y = new UnitsWrong();
+        for (int i = 0; i < Math.max(done.size(), other.done.size()); i++) {
+            if (i < done.size()) answer(x, done.get(i));
+            if (i < other.done.size()) answer(y, other.done.get(i));
+        }
+        for (String question : questions(replay(done)).subList(0, 300)) check(question + ", beside another,", answer(x, question), answer(replay(done), question));
+        for (String question : questions(replay(other.done)).subList(0, 300)) check(question + ", beside another,", answer(y, question), answer(replay(other.done), question));
+        return this;
+    }
+
     /** Puts a TEXT in place of what is there. */
     Run text(String text) {
         is("end(0)", 1);
@@ -172,10 +202,14 @@ final class Run {
     }
 
     private void renew() {
-        object = new UnitsWrong();
-        calls = 0;
-        for (String call : done) answer(object, call);
+        object = replay(done);
         calls = done.size();
+    }
+
+    private static UnitsWrong replay(List<String> run) {
+        UnitsWrong x = new UnitsWrong();
+        for (String call : run) answer(x, call);
+        return x;
     }
 
     private long answer(String call) {
@@ -218,8 +252,7 @@ final class Run {
         Map<String, Long> all = new HashMap<>();
         List<String> questions = null;
         for (int next = 0; questions == null || next < questions.size();) {
-            UnitsWrong x = new UnitsWrong();
-            for (String call : run) answer(x, call);
+            UnitsWrong x = replay(run);
             for (String call : later) all.put("later " + call, answer(x, call));
             int left = MOST_CALLS - run.size() - later.size() - 5;
             if (questions == null) questions = questions(x);
