@@ -19,12 +19,15 @@ final class Run {
     static final int ABSENT = Integer.MIN_VALUE;
 
     private static final int MOST_CALLS = 512;
-    private static final Set<String> CHANGING = Set.of("paper", "fund", "holder", "holiday", "tell", "trade", "deal", "feed", "end",
+    private static final Set<String> CHANGING = Set.of("paper", "fund", "holder", "holiday", "tell", "trade", "deal", "feed",
+        "end",
         "take", "go", "gone", "found", "audit", "suspect", "forget");
-    private static final Set<String> REFUSING_BY_ABSENT = Set.of("known", "rule", "error", "claim", "house", "cash", "dealt", "beside",
+    private static final Set<String> REFUSING_BY_ABSENT = Set.of("known", "rule", "error", "claim", "house", "cash", "dealt",
+        "beside",
         "balance", "payment");
     /** Calls by which a change that can't be asked for yet comes to light. */
-    private static final List<String> LATER = List.of("deal(0, 0, 3, 9)", "deal(1, 0, 3, 13)", "deal(15, 0, 3, 1)", "take()", "go(1)",
+    private static final List<String> LATER = List.of("deal(0, 0, 3, 9)", "deal(1, 0, 3, 13)", "deal(15, 0, 3, 1)", "take()",
+        "go(1)",
         "tell(0, 0, 0, 50)", "suspect(2, 0, 0, 1)", "go(9)");
 
     private static final Map<String, Method> FACE = new HashMap<>();
@@ -138,8 +141,12 @@ final class Run {
             if (i < done.size()) answer(x, done.get(i));
             if (i < other.done.size()) answer(y, other.done.get(i));
         }
-        for (String question : questions(replay(done)).subList(0, 300)) check(question + ", beside another,", answer(x, question), answer(replay(done), question));
-        for (String question : questions(replay(other.done)).subList(0, 300)) check(question + ", beside another,", answer(y, question), answer(replay(other.done), question));
+        for (String question : questions(replay(done)).subList(0, 300)) {
+            check(question + ", beside another,", answer(x, question), answer(replay(done), question));
+        }
+        for (String question : questions(replay(other.done)).subList(0, 300)) {
+            check(question + ", beside another,", answer(y, question), answer(replay(other.done), question));
+        }
         return this;
     }
 
@@ -174,7 +181,9 @@ final class Run {
 
     /** BALANCES of PARTIES: a PARTY, its BALANCE, and so on. */
     Run balances(int fund, long... partiesAndSums) {
-        for (int i = 0; i + 1 < partiesAndSums.length; i += 2) is(call("balance", fund, (int) partiesAndSums[i]), partiesAndSums[i + 1]);
+        for (int i = 0; i + 1 < partiesAndSums.length; i += 2) {
+            is(call("balance", fund, (int) partiesAndSums[i]), partiesAndSums[i + 1]);
+        }
         return this;
     }
 
@@ -257,7 +266,9 @@ final class Run {
             int left = MOST_CALLS - run.size() - later.size() - 5;
             if (questions == null) questions = questions(x);
             if (left < 1) throw new IllegalStateException("a run of " + run.size() + " calls leaves nothing to ask");
-            for (int end = Math.min(questions.size(), next + left); next < end; next++) all.put(questions.get(next), answer(x, questions.get(next)));
+            for (int end = Math.min(questions.size(), next + left); next < end; next++) {
+                all.put(questions.get(next), answer(x, questions.get(next)));
+            }
         }
         return all;
     }

@@ -29,7 +29,8 @@ public final class TextEdgesTest {
         for (int feeder = 0; feeder < 4; feeder++) {
             for (int fund = 0; fund < 4; fund++) {
                 boolean can = fund < feeder;
-                String[] calls = {Run.call("deal", 20 + feeder, fund, 1, 0), Run.call("units", 20 + feeder, fund), Run.call("claim", 20 + feeder, fund, 0, 0)};
+                String[] calls = {Run.call("deal", 20 + feeder, fund, 1, 0), Run.call("units", 20 + feeder, fund),
+                    Run.call("claim", 20 + feeder, fund, 0, 0)};
                 if (can) x.is(calls[0], number++).is(calls[1], 0).is(calls[2], 0);
                 else x.refuses(calls);
                 x.is(Run.call("balance", fund, 20 + feeder), 0);
@@ -42,7 +43,8 @@ public final class TextEdgesTest {
         Run y = x.fork();
         int number = y.many("count(5)");
         if (day == Run.NONE) y.refuses(Run.call("deal", who, 0, 1, hour));
-        else y.is(Run.call("deal", who, 0, 1, hour), number).is(Run.call("dealt", number, 2), day).is(Run.call("dealt", number, 3), 0);
+        else y.is(Run.call("deal", who, 0, 1, hour), number).is(Run.call("dealt", number, 2), day)
+            .is(Run.call("dealt", number, 3), 0);
     }
 
     // "It is for NOW, if NOW is OPEN and HOUR less ZONE is below CUT of the FUND NOW, else for the first OPEN DAY behind NOW"
@@ -83,7 +85,8 @@ public final class TextEdgesTest {
         x.after("deal(0, 0, 1, 9)", "deal(0, 0, 1, 10)", "deal(0, 1, 1, 13)", "deal(0, 1, 1, 14)");
         x.is("dealt(0, 2)", 0).is("dealt(1, 2)", 1).is("dealt(2, 2)", 0).is("dealt(3, 2)", 1);
         // By a LAW that is TAKEN NOW, from the next call on; the DAYS of DEALS ahead stay.
-        x.law("cut 3").after("deal(0, 0, 1, 2)", "deal(0, 0, 1, 3)").is("dealt(4, 2)", 0).is("dealt(5, 2)", 1).is("dealt(0, 2)", 0);
+        x.law("cut 3").after("deal(0, 0, 1, 2)", "deal(0, 0, 1, 3)").is("dealt(4, 2)", 0).is("dealt(5, 2)", 1)
+            .is("dealt(0, 2)", 0);
         x.is("go(1)", 1).after("deal(0, 0, 1, 2)", "deal(0, 0, 1, 3)").is("dealt(6, 2)", 1).is("dealt(7, 2)", 2);
         x.law("cut 24").after("deal(0, 0, 1, 23)").is("dealt(8, 2)", 1).is("dealt(7, 2)", 2);
     }
@@ -139,7 +142,8 @@ public final class TextEdgesTest {
         x.is("feed(1717921056, 825363043, 1970544689, 822768737, 2015375667)", 20).is("fault()", -1);
         x.fork().is("take()", 0).rules(0, 0, 12, 12).rules(0, 3, 11, 11).rules(0, 10, 13, 13);
         // Behind them: "\nfun" "d 1:" "repo" "rt 9" " day"; and then "s", two ends of LINES, and bytes 0.
-        x.is("feed(174486894, 1679831354, 1919250543, 1920213049, 543449465)", 40).is("fault()", 37).is("feed(1930037760, 0, 0, 0, 0)", 60);
+        x.is("feed(174486894, 1679831354, 1919250543, 1920213049, 543449465)", 40).is("fault()", 37)
+            .is("feed(1930037760, 0, 0, 0, 0)", 60);
         x.is("fault()", 43).yes("end(43)").is("fault()", -1).is("take()", 0).rules(0, 11, 0, 9).rules(0, 10, 13, 13);
         // Bytes of 128 and more, and 0, begin no TOKEN; they aren't brought to others.
         new Run("12, bytes").is("feed(-1, 538976288, 538976288, 538976288, 538976288)", 20).is("fault()", 0);
@@ -156,7 +160,8 @@ public final class TextEdgesTest {
 
     // "LINES end at bytes 10"; "blanks (32) are between. A LINE without TOKENS tells nothing"
     private static void linesAndBlanks() {
-        for (String text : new String[] {"", " ", "\n", "\n\n\n", "   \n  \n ", "fee 5", "fee 5\n", "\nfee 5", "\n\n  fee   5  \n\n", "fee 5\n\ncut 3", "fee 5\n   \ncut 3\n"}) {
+        for (String text : new String[] {"", " ", "\n", "\n\n\n", "   \n  \n ", "fee 5", "fee 5\n", "\nfee 5",
+            "\n\n  fee   5  \n\n", "fee 5\n\ncut 3", "fee 5\n   \ncut 3\n"}) {
             fault(text, -1);
         }
         fault("fee\n5", 3);
@@ -164,13 +169,15 @@ public final class TextEdgesTest {
         fault("cut 3\nfee 5 cut 3", 12);
         fault("swing 5\nover 6", 7);
         fault("fund 0:\nfee 5", 7);
-        Run x = new Run("2, LINES").after("fund(0)").text("\n \nfee 5\n\n   cut 3   \n").is("take()", 0).rules(0, 0, 5).rules(0, 3, 3);
+        Run x = new Run("2, LINES").after("fund(0)").text("\n \nfee 5\n\n   cut 3   \n").is("take()", 0).rules(0, 0, 5)
+            .rules(0, 3, 3);
         x.text("\n \n").is("take()", 1).rules(0, 0, 0).rules(0, 3, 24);
     }
 
     // "words of small letters and numbers of digits, as long as can be, and the sign :"
     private static void tokensAsLongAsCanBe() {
-        for (String text : new String[] {"fee5", "swing5over6", "fund0:fee5", "fund 0:fee 5", "fund 0 :fee 5", "fund 0 : fee 5", "report5days", "gone5days to poor",
+        for (String text : new String[] {"fee5", "swing5over6", "fund0:fee5", "fund 0:fee 5", "fund 0 :fee 5", "fund 0 : fee 5",
+            "report5days", "gone5days to poor",
             "fee 00005", "fee 0000000000000000000000000000000000005", "fee 5000", "fee 05000"}) {
             fault(text, -1);
         }
@@ -190,27 +197,34 @@ public final class TextEdgesTest {
         fault("fee 18446744073709551621", 4);
         fault("fee 1" + "0".repeat(400), 4);
         fault("fee " + "0".repeat(400) + "1", -1);
-        new Run("2, TOKENS").after("fund(0)", "fund(0)").text("fund01:fee007\nfee 0" + "0".repeat(300) + "9").is("take()", 0).rules(0, 0, 9, 7);
+        new Run("2, TOKENS").after("fund(0)", "fund(0)").text("fund01:fee007\nfee 0" + "0".repeat(300) + "9").is("take()", 0)
+            .rules(0, 0, 9, 7);
     }
 
     // "each a number N, M within its bounds"
     private static void boundsOfEachRule() {
         // A LINE, the place of its number, the most it can be, and which rule it is.
-        Object[][] all = {{"fee #", 4, 5000, 0}, {"swing # over 1", 6, 1000, 1}, {"swing 1 over #", 13, 10000, 2}, {"cut #", 4, 24, 3}, {"error beyond #", 13, 5000, 4},
-            {"least # to fund", 6, 100000, 5}, {"least # to house", 6, 100000, 5}, {"least # to poor", 6, 100000, 5}, {"gains back beyond #", 18, 100000, 7},
-            {"gone # days to fund", 5, 300, 8}, {"gone # days to house", 5, 300, 8}, {"gone # days to poor", 5, 300, 8}, {"tax #", 4, 90, 10}, {"report # days", 7, 60, 11}};
+        Object[][] all = {{"fee #", 4, 5000, 0}, {"swing # over 1", 6, 1000, 1}, {"swing 1 over #", 13, 10000, 2},
+            {"cut #", 4, 24, 3}, {"error beyond #", 13, 5000, 4},
+            {"least # to fund", 6, 100000, 5}, {"least # to house", 6, 100000, 5}, {"least # to poor", 6, 100000, 5},
+                {"gains back beyond #", 18, 100000, 7},
+            {"gone # days to fund", 5, 300, 8}, {"gone # days to house", 5, 300, 8}, {"gone # days to poor", 5, 300, 8},
+                {"tax #", 4, 90, 10}, {"report # days", 7, 60, 11}};
         for (Object[] one : all) {
             String line = (String) one[0];
             int place = (Integer) one[1];
             int most = (Integer) one[2];
             int what = (Integer) one[3];
             for (int value : new int[] {0, 1, most - 1, most}) {
-                new Run("16, " + line).after("fund(0)", "fund(0)").text(line.replace("#", "" + value)).is("fault()", -1).is("take()", 0).rules(0, what, value, value);
+                new Run("16, " + line).after("fund(0)", "fund(0)").text(line.replace("#", "" + value)).is("fault()", -1)
+                    .is("take()", 0).rules(0, what, value, value);
                 String alone = "fund 1: " + line.replace("#", "" + value);
                 int without = new int[] {0, 0, 10000, 24, 0, 0, 0, -1, 300, 0, 0, 0}[what];
-                new Run("16, " + alone).after("fund(0)", "fund(0)").text(alone).is("fault()", -1).is("take()", 0).rules(0, what, without, value);
+                new Run("16, " + alone).after("fund(0)", "fund(0)").text(alone).is("fault()", -1).is("take()", 0)
+                    .rules(0, what, without, value);
             }
-            for (String value : new String[] {"" + (most + 1), "" + (most + 1L + (1L << 32)), most + "0", "999999999999999999999", "-1", "x", ":"}) {
+            for (String value : new String[] {"" + (most + 1), "" + (most + 1L + (1L << 32)), most + "0",
+                "999999999999999999999", "-1", "x", ":"}) {
                 fault(line.replace("#", value), place);
                 fault("cut 1\nfund 3 : " + line.replace("#", value), 15 + place);
             }
@@ -229,7 +243,8 @@ public final class TextEdgesTest {
     private static void wordsOfEachRule() {
         String[] parties = {"fund", "house", "poor"};
         for (int p = 0; p < 3; p++) {
-            Run x = new Run("16, P").after("fund(0)").text("least 7 to " + parties[p] + "\ngone 8 days to " + parties[2 - p]).is("take()", 0);
+            Run x = new Run("16, P").after("fund(0)").text("least 7 to " + parties[p] + "\ngone 8 days to " + parties[2 - p])
+                .is("take()", 0);
             x.rules(0, 5, 7).rules(0, 6, p).rules(0, 8, 8).rules(0, 9, 2 - p);
         }
         for (String word : new String[] {"funds", "fun", "hous", "houses", "poo", "poors", "to", "x", "stay"}) {
@@ -237,7 +252,8 @@ public final class TextEdgesTest {
             fault("gone 7 days to " + word, 15);
             fault(word + " 7", 0);
         }
-        for (String word : new String[] {"fees", "fe", "swings", "cuts", "cu", "errors", "erro", "leas", "gain", "gon", "taxes", "ta", "reports", "days", "over", "beyond", "to", "back", "stay",
+        for (String word : new String[] {"fees", "fe", "swings", "cuts", "cu", "errors", "erro", "leas", "gain", "gon", "taxes",
+            "ta", "reports", "days", "over", "beyond", "to", "back", "stay",
             "house", "poor"}) {
             fault(word + " 5", 0);
             fault("fund 0: " + word + " 5", 8);
@@ -278,7 +294,8 @@ public final class TextEdgesTest {
 
     // "of the LINE's end if it is over too early (the byte 10, or the TEXT's length)"
     private static void endOfALineThatIsOverTooEarly() {
-        String[] wholes = {"fee 5", "swing 5 over 6", "cut 7", "error beyond 8", "least 9 to fund", "gains stay", "gains back beyond 10", "gone 11 days to poor", "tax 12",
+        String[] wholes = {"fee 5", "swing 5 over 6", "cut 7", "error beyond 8", "least 9 to fund", "gains stay",
+            "gains back beyond 10", "gone 11 days to poor", "tax 12",
             "report 13 days", "fund 2 : fee 5", "fund 2 : gains back beyond 10"};
         for (String whole : wholes) {
             fault(whole, -1);
@@ -320,10 +337,14 @@ public final class TextEdgesTest {
     private static void laterLinesCount() {
         Run x = new Run("2, later LINES").after("fund(0)", "fund(0)", "fund(0)");
         x.text("fee 1\nfee 2\nfund 1: fee 3\nfund 1: fee 4\nfund 2: fee 5\nfee 6").is("take()", 0).rules(0, 0, 6, 4, 5);
-        x.text("gains stay\ngains back beyond 5\nfund 1: gains back beyond 6\nfund 1: gains stay").is("take()", 1).rules(0, 7, 5, -1, 5);
-        x.text("gains back beyond 5\ngains stay\nfund 2: gains stay\nfund 2: gains back beyond 0").is("take()", 2).rules(0, 7, -1, -1, 0);
-        x.text("swing 1 over 2\nswing 3 over 4\nfund 0: swing 5 over 6").is("take()", 3).rules(0, 1, 5, 3, 3).rules(0, 2, 6, 4, 4);
-        x.text("least 1 to poor\nleast 2 to fund\nfund 2: least 3 to house\ngone 4 days to poor\ngone 5 days to house").is("take()", 4);
+        x.text("gains stay\ngains back beyond 5\nfund 1: gains back beyond 6\nfund 1: gains stay").is("take()", 1)
+            .rules(0, 7, 5, -1, 5);
+        x.text("gains back beyond 5\ngains stay\nfund 2: gains stay\nfund 2: gains back beyond 0").is("take()", 2)
+            .rules(0, 7, -1, -1, 0);
+        x.text("swing 1 over 2\nswing 3 over 4\nfund 0: swing 5 over 6").is("take()", 3).rules(0, 1, 5, 3, 3)
+            .rules(0, 2, 6, 4, 4);
+        x.text("least 1 to poor\nleast 2 to fund\nfund 2: least 3 to house\ngone 4 days to poor\ngone 5 days to house")
+            .is("take()", 4);
         x.rules(0, 5, 2, 2, 3).rules(0, 6, 0, 0, 1).rules(0, 8, 5, 5, 5).rules(0, 9, 1, 1, 1);
     }
 
@@ -338,11 +359,13 @@ public final class TextEdgesTest {
     // "A TEXT without a FAULT is TAKEN: a LAW (at most 6): it holds from NOW on, in place of all ahead of it."
     private static void lawsHoldFromNowOn() {
         Run x = new Run("2, LAWS").after("fund(0)").text("fee 1").is("take()", 0).rules(0, 0, 1).rules(259, 0, 1);
-        x.is("go(3)", 3).text("cut 5").is("take()", 1).rules(2, 0, 1).rules(2, 3, 24).rules(3, 0, 0).rules(3, 3, 5).rules(259, 3, 5);
+        x.is("go(3)", 3).text("cut 5").is("take()", 1).rules(2, 0, 1).rules(2, 3, 24).rules(3, 0, 0).rules(3, 3, 5)
+            .rules(259, 3, 5);
         // Of two on one DAY the latter.
         x.text("fee 2").is("take()", 2).rules(2, 0, 1).rules(3, 0, 2).rules(3, 3, 24);
         x.is("go(1)", 4).rules(4, 0, 2).text("fee 3").is("take()", 3).rules(3, 0, 2).rules(4, 0, 3);
-        x.goTo(258).text("fee 4").is("take()", 4).is("go(1)", 259).text("fee 5").is("take()", 5).rules(257, 0, 3).rules(258, 0, 4).rules(259, 0, 5);
+        x.goTo(258).text("fee 4").is("take()", 4).is("go(1)", 259).text("fee 5").is("take()", 5).rules(257, 0, 3).rules(258, 0, 4)
+            .rules(259, 0, 5);
         x.is("count(6)", 6).text("fee 6").refuses("take()").rules(259, 0, 5);
     }
 
@@ -350,12 +373,16 @@ public final class TextEdgesTest {
     private static void whatALawDoesNotTell() {
         int[] without = {0, 0, 10000, 24, 0, 0, 0, -1, 300, 0, 0, 0};
         Run x = new Run("2, without").after("fund(0)", "fund(0)");
-        for (int what = 0; what < 12; what++) x.rules(0, what, without[what], without[what]).rules(259, what, without[what], without[what]);
+        for (int what = 0; what < 12; what++) {
+            x.rules(0, what, without[what], without[what]).rules(259, what, without[what], without[what]);
+        }
         x.law("fund 1: fee 1\nfund 1: swing 2 over 3\nfund 1: cut 4\nfund 1: error beyond 5\nfund 1: least 6 to house\nfund 1: gains back beyond 7\n"
             + "fund 1: gone 8 days to poor\nfund 1: tax 9\nfund 1: report 10 days");
         int[] told = {1, 2, 3, 4, 5, 6, 1, 7, 8, 2, 9, 10};
         for (int what = 0; what < 12; what++) x.rules(0, what, without[what], told[what]);
         x.is("go(1)", 1).law(" ");
-        for (int what = 0; what < 12; what++) x.rules(0, what, without[what], told[what]).rules(1, what, without[what], without[what]);
+        for (int what = 0; what < 12; what++) {
+            x.rules(0, what, without[what], told[what]).rules(1, what, without[what], without[what]);
+        }
     }
 }
