@@ -17,6 +17,8 @@ public final class RandomRunsTest {
     private final boolean wild;
     private final int pace;
     private final int lastDay;
+    /** The kind of call by which a limit is reached (TELLINGS, TRADES or DEALS), or -1. */
+    private final int greed;
     private String wrong;
 
     private RandomRunsTest(long seed) {
@@ -24,6 +26,7 @@ public final class RandomRunsTest {
         wild = random.nextInt(4) == 0;
         pace = 1 + random.nextInt(6);
         lastDay = random.nextInt(12) == 0 ? 260 : 10 + random.nextInt(40);
+        greed = seed % 25 == 0 ? new int[] {4, 15, 20}[(int) (seed / 25 % 3)] : -1;
     }
 
     public static void main(String[] args) {
@@ -125,7 +128,8 @@ public final class RandomRunsTest {
         if (below(2) == 0) text();
         while (done.size() < CALLS - 30 && wrong == null) {
             int kind = below(100);
-            if (kind < 50) act(kind);
+            if (greed >= 0 && below(greed == 4 ? 100 : greed == 15 ? 200 : 135) < 95) act(greed);
+            else if (kind < 50) act(kind);
             else ask(kind - 50);
         }
     }
